@@ -276,45 +276,43 @@ public final class MartialHall {
         if (detailed.state != REFERRED || !detailed.canSeat(person)) {
             throw new IllegalStateException("not REFERRED, or that one may not be a member");
         }
-        detailed.seatOf(person).take(person.isMan());
-        return detailed.memberCount();
+        detailed.bench.seat(person);
+        return detailed.bench.size();
     }
 
     public int challenge(int number, int member) throws IndexOutOfBoundsException, IllegalStateException {
         Case challenged = caseAt(number);
-        Seat seat = challenged.seatOf(personAt(member));
-        if (challenged.state != REFERRED || !seat.isTaken) {
+        Person person = personAt(member);
+        if (challenged.state != REFERRED || challenged.bench.memberFor(person) == null) {
             throw new IllegalStateException("not REFERRED, or no member");
         }
-        seat.vacate();
-        seat.isChallenged = true;
-        return challenged.memberCount();
+        challenged.bench.unseat(person);
+        return challenged.bench.size();
     }
 
     public boolean talk(int number, int by, int to) throws IndexOutOfBoundsException {
         Case talkedOf = caseAt(number);
         Person talker = personAt(by);
         Person listener = personAt(to);
-        Seat seat = talkedOf.seatOf(listener);
         if (talker.rank > listener.rank) {
-            seat.isTainted = true;
+            talkedOf.bench.taint(listener);
         }
-        return seat.isTainted;
+        return talkedOf.bench.isTainted(listener);
     }
 
     public void vote(int number, int member, int finding, int days)
             throws IndexOutOfBoundsException, IllegalArgumentException, IllegalStateException {
         Case voted = caseAt(number);
-        Seat seat = voted.seatOf(personAt(member));
+        Member voter = voted.bench.memberFor(personAt(member));
         if (finding < ACQUITTED || finding > WHOLE || days < 0 || days > MAX_DAYS) {
             throw new IllegalArgumentException("a finding is 0 to 2, days are 0 to 999");
         }
-        if (voted.state != REFERRED || !seat.isTaken) {
+        if (voted.state != REFERRED || voter == null) {
             throw new IllegalStateException("not REFERRED, or no member");
         }
-        seat.hasVoted = true;
-        seat.votedFinding = finding;
-        seat.votedDays = days;
+        voter.hasVoted = true;
+        voter.finding = finding;
+        voter.days = days;
     }
 
     public int close(int number) throws IndexOutOfBoundsException, IllegalStateException {
@@ -322,7 +320,7 @@ public final class MartialHall {
         if (tried.state != REFERRED) {
             throw new IllegalStateException("not REFERRED");
         }
-        if (!tried.isReadyToClose()) {
+        if (!tried.bench.isReady(tried.leastMembers, tried.isRequested)) {
             return NONE;
         }
         tried.judge();
@@ -500,6 +498,10 @@ public final class MartialHall {
             return rank < LEAST_OFFICER;
         }
 
+        int bit() {
+            return 1 << number;
+        }
+
         void tellStatus(int day, int status) {
             int count = history.size();
             if (count > 0 && history.get(count - 1).day == day) {
@@ -536,31 +538,135 @@ public final class MartialHall {
         }
     }
 
-    /** What a case knows of one person as a member of its court, be he one or not. */
-    private static final class Seat {
-        boolean isTaken;
-        boolean isByMan;
-        boolean isTainted;
-        boolean isChallenged;
+    /** A person detailed to a court, and his vote. */
+    private static final class Member {
+        final Person person;
         boolean hasVoted;
-        int votedFinding;
-        int votedDays;
+        int finding;
+        int days;
         /** Whether the vote counted as the court closed: a later taint does not change it. */
         boolean isCounted;
 
-        void take(boolean byMan) {
-            isTaken = true;
-            isByMan = byMan;
+        Member(Person person) {
+            this.person = person;
+        }
+    }
+
+    /** Who judge a case: its members with their votes, who is tainted in it, and who was challenged. */
+    private static final class Bench {
+        private final ArrayList<Member> members;
+        // Persons by their bits: a taint and a challenge hold for those who are no members, too.
+        private int tainted;
+        private int challenged;
+
+        Bench() {
+            members = new ArrayList<>();
         }
 
-        void vacate() {
-            isTaken = false;
-            hasVoted = false;
-            isCounted = false;
+        int size() {
+            return members.size();
         }
 
-        boolean isFit() {
-            return isTaken && !isTainted;
+        /** The member that a person is, null if he is none. */
+        Member memberFor(Person person) {
+            for (int i = 0; i < members.size(); i++) {
+                if (members.get(i).person == person) {
+                    return members.get(i);
+                }
+            }
+            return null;
+        }
+
+        void seat(Person person) {
+            members.add(new Member(person));
+        }
+
+        void unseat(Person person) {
+            for (int i = members.size() - 1; i >= 0; i--) {
+                if (members.get(i).person == person) {
+                    members.remove(i);
+                }
+            }
+            challenged |= person.bit();
+        }
+
+        void dissolve() {
+            members.clear();
+        }
+
+        void taint(Person person) {
+            tainted |= person.bit();
+        }
+
+        boolean isTainted(Person person) {
+            return (tainted & person.bit()) != 0;
+        }
+
+        boolean wasChallenged(Person person) {
+            return (challenged & person.bit()) != 0;
+        }
+
+        boolean isReady(int leastMembers, boolean needsMen) {
+            int fit = 0;
+            int men = 0;
+            for (int i = 0; i < members.size(); i++) {
+                Member member = members.get(i);
+                if (!isTainted(member.person)) {
+                    if (!member.hasVoted) {
+                        return false;
+                    }
+                    fit++;
+                    men += member.person.isMan() ? 1 : 0;
+                }
+            }
+            return fit >= leastMembers && (!needsMen || men >= thirdOf(fit));
+        }
+
+        void settleVotes() {
+            for (int i = 0; i < members.size(); i++) {
+                Member member = members.get(i);
+                member.isCounted = !isTainted(member.person);
+            }
+        }
+
+        int countedVotes() {
+            return votesForFinding(ACQUITTED);
+        }
+
+        /** How many of the counted votes are for a finding or a graver one. */
+        int votesForFinding(int least) {
+            int count = 0;
+            for (int i = 0; i < members.size(); i++) {
+                Member member = members.get(i);
+                if (member.isCounted && member.finding >= least) {
+                    count++;
+                }
+            }
+            return count;
+        }
+
+        /** How many of the counted votes are for so many days or more. */
+        int votesForDays(int least) {
+            int count = 0;
+            for (int i = 0; i < members.size(); i++) {
+                Member member = members.get(i);
+                if (member.isCounted && member.days >= least) {
+                    count++;
+                }
+            }
+            return count;
+        }
+
+        /** The greatest days that so many of the counted votes reach. */
+        int daysReachedBy(int needed) {
+            int greatest = 0;
+            for (int i = 0; i < members.size(); i++) {
+                Member member = members.get(i);
+                if (member.isCounted && member.days > greatest && votesForDays(member.days) >= needed) {
+                    greatest = member.days;
+                }
+            }
+            return greatest;
         }
     }
 
@@ -568,6 +674,7 @@ public final class MartialHall {
         final Person person;
         final Person accuser;
         final Offence offence;
+        final Bench bench;
         int state;
         int clock;
         int credit;
@@ -583,21 +690,16 @@ public final class MartialHall {
         Person referrer;
         int cap;
         int leastMembers;
-        /** One for each person that there can be, by his number. */
-        private final Seat[] seats;
 
         Case(Person person, Person accuser, Offence offence) {
             this.person = person;
             this.accuser = accuser;
             this.offence = offence;
+            bench = new Bench();
             state = CHARGED;
             finding = NONE;
             ceiling = NONE;
             restraint = UNRESTRAINED;
-            seats = new Seat[MAX_PERSONS];
-            for (int i = 0; i < seats.length; i++) {
-                seats[i] = new Seat();
-            }
         }
 
         void age(int passed) {
@@ -633,51 +735,17 @@ public final class MartialHall {
             state = CHARGED;
             finding = NONE;
             days = 0;
-            for (Seat seat : seats) {
-                seat.vacate();
-            }
-        }
-
-        Seat seatOf(Person sitter) {
-            return seats[sitter.number];
-        }
-
-        int memberCount() {
-            int count = 0;
-            for (Seat seat : seats) {
-                if (seat.isTaken) {
-                    count++;
-                }
-            }
-            return count;
+            bench.dissolve();
         }
 
         boolean canSeat(Person sitter) {
-            Seat seat = seatOf(sitter);
             boolean isParty = sitter == person || sitter == accuser || sitter == referrer;
-            return memberCount() < MAX_MEMBERS && !seat.isTaken && !seat.isChallenged && !isParty
-                    && sitter.rank > person.rank && (isRequested || !sitter.isMan());
-        }
-
-        boolean isReadyToClose() {
-            int fit = 0;
-            int men = 0;
-            for (Seat seat : seats) {
-                if (seat.isFit()) {
-                    if (!seat.hasVoted) {
-                        return false;
-                    }
-                    fit++;
-                    men += seat.isByMan ? 1 : 0;
-                }
-            }
-            return fit >= leastMembers && (!isRequested || men >= thirdOf(fit));
+            return bench.size() < MAX_MEMBERS && bench.memberFor(sitter) == null && !bench.wasChallenged(sitter)
+                    && !isParty && sitter.rank > person.rank && (isRequested || !sitter.isMan());
         }
 
         void judge() {
-            for (Seat seat : seats) {
-                seat.isCounted = seat.isFit();
-            }
+            bench.settleVotes();
             finding = findingByVotes();
             if (finding == ACQUITTED) {
                 state = CLOSED;
@@ -688,33 +756,33 @@ public final class MartialHall {
         }
 
         private int findingByVotes() {
-            int needed = twoThirdsOf(countedVotes());
-            if (votesOfAtLeast(WHOLE) >= needed) {
+            int needed = twoThirdsOf(bench.countedVotes());
+            if (bench.votesForFinding(WHOLE) >= needed) {
                 return WHOLE;
             }
-            if (offence.lesserDays != NONE && votesOfAtLeast(LESSER) >= needed) {
+            if (offence.lesserDays != NONE && bench.votesForFinding(LESSER) >= needed) {
                 return LESSER;
             }
             return ACQUITTED;
         }
 
-        /** The sentence from the votes alone, which sentenceByTrial finds the long way. */
+        /** The sentence from the days of the votes alone, which sentenceByTrial finds the long way. */
         private int sentenceByVotes() {
             int most = mostDays();
-            int voters = countedVotes();
-            int severe = Math.min(most, daysVotedBy(threeFourthsOf(voters)));
+            int voters = bench.countedVotes();
+            int severe = Math.min(most, bench.daysReachedBy(threeFourthsOf(voters)));
             if (severe > DAYS_OF_TWO_THIRDS) {
                 return severe;
             }
-            int mild = Math.min(most, daysVotedBy(twoThirdsOf(voters)));
+            int mild = Math.min(most, bench.daysReachedBy(twoThirdsOf(voters)));
             return Math.min(mild, DAYS_OF_TWO_THIRDS);
         }
 
         int sentenceByTrial() {
-            int voters = countedVotes();
+            int voters = bench.countedVotes();
             for (int tried = mostDays(); tried > 0; tried--) {
                 int needed = tried > DAYS_OF_TWO_THIRDS ? threeFourthsOf(voters) : twoThirdsOf(voters);
-                if (votesForDays(tried) >= needed) {
+                if (bench.votesForDays(tried) >= needed) {
                     return tried;
                 }
             }
@@ -724,41 +792,6 @@ public final class MartialHall {
         private int mostDays() {
             int most = Math.min(cap, finding == WHOLE ? offence.wholeDays : offence.lesserDays);
             return ceiling == NONE ? most : Math.min(most, ceiling);
-        }
-
-        /** The greatest days that so many of the counted votes reach. */
-        private int daysVotedBy(int needed) {
-            int greatest = 0;
-            for (Seat seat : seats) {
-                if (seat.isCounted && seat.votedDays > greatest && votesForDays(seat.votedDays) >= needed) {
-                    greatest = seat.votedDays;
-                }
-            }
-            return greatest;
-        }
-
-        private int countedVotes() {
-            return votesOfAtLeast(ACQUITTED);
-        }
-
-        private int votesOfAtLeast(int least) {
-            int count = 0;
-            for (Seat seat : seats) {
-                if (seat.isCounted && seat.votedFinding >= least) {
-                    count++;
-                }
-            }
-            return count;
-        }
-
-        private int votesForDays(int least) {
-            int count = 0;
-            for (Seat seat : seats) {
-                if (seat.isCounted && seat.votedDays >= least) {
-                    count++;
-                }
-            }
-            return count;
         }
     }
 }

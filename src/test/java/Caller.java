@@ -39,8 +39,13 @@ final class Caller {
         return picture.toString();
     }
 
-    // Only the very exceptions of the document have short names: a subclass that the machine throws is no due answer.
+    // Only the very exceptions of the document, thrown by the class itself, have short names: what the machine or a
+    // list throws is no due answer.
     private static String shortName(RuntimeException e) {
+        StackTraceElement[] trace = e.getStackTrace();
+        if (trace.length == 0 || !trace[0].getClassName().startsWith("MartialHall")) {
+            return "by the machine: " + e;
+        }
         if (e.getClass() == IndexOutOfBoundsException.class) {
             return "IOOBE";
         }

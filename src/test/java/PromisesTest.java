@@ -973,6 +973,7 @@ public final class PromisesTest {
         sentence("4 of 5", 250, 300, 300, 300, 250, 0);
         sentence("two thirds of 5 are 4", 20, 90, 90, 90, 20, 0);
         sentence("nothing", 0, 500, 0, 0);
+        sentence("a day", 1, 1, 1, 0);
         promise("27 the sentence, whatever finding they voted", voted("MURDER", 1, 120, 120, 120, 120), """
             vote 0 4 0 30
             close 0 = 3

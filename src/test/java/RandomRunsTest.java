@@ -243,16 +243,23 @@ public final class RandomRunsTest {
         int missing = 0;
         for (String line : due) {
             String[] parts = line.split(" ");
-            parts[0] += " answers";
-            for (int i = 0; i < parts.length; i++) {
-                String key = i == 0 ? parts[0] : line.split(" ")[0] + " " + parts[i];
-                if (seen.getOrDefault(key, 0) < 10) {
-                    missing++;
-                    System.out.println("too seldom: " + key + ", " + seen.get(key));
-                }
+            missing += isSeldom(seen, parts[0] + " answers") ? 1 : 0;
+            for (int i = 1; i < parts.length; i++) {
+                missing += isSeldom(seen, parts[0] + " " + parts[i]) ? 1 : 0;
             }
         }
+        for (String closed : new String[] {"close = -1", "close = 3", "close = 5", "caseIs = 0", "caseIs = 1", "caseIs = 2"}) {
+            missing += isSeldom(seen, closed) ? 1 : 0;
+        }
         return missing;
+    }
+
+    private static boolean isSeldom(Map<String, Integer> seen, String what) {
+        int times = seen.getOrDefault(what, 0);
+        if (times < 10) {
+            System.out.println("too seldom in the runs: " + what + ", " + times + " times");
+        }
+        return times < 10;
     }
 
     public static void main(String[] args) {
@@ -264,7 +271,7 @@ public final class RandomRunsTest {
             wrong += runs.wrong;
         }
         wrong += unseen(seen);
-        System.out.println(seen);
+        System.out.println(RUNS + " runs of " + CALLS + " calls, " + wrong + " wrong");
         System.exit(wrong == 0 ? 0 : 1);
     }
 }
