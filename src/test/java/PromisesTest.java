@@ -1,129 +1,7 @@
-/**
- * Each promise of the document by a script of calls on a new object. A line is a call with its numbers and, behind
- * "=", the answer that is due; without one any answer but an exception will do. "word" types a word. After a call
- * that is to throw, all that can be asked must be as before.
- */
+/** Each promise of the document by a script of calls on a new object: ordinary ones, edges and wrong ones. */
 public final class PromisesTest {
-    private static int wrong = 0;
-    private static int lines = 0;
-
-    private final String title;
-    private final MartialHall hall = new MartialHall();
-    private int today = 0;
-
-    private PromisesTest(String title) {
-        this.title = title;
-    }
-
-    private static void promise(String title, String... scripts) {
-        PromisesTest test = new PromisesTest(title);
-        for (String script : scripts) {
-            for (String line : script.split("\n")) {
-                if (!line.isBlank()) {
-                    test.line(line.trim());
-                }
-            }
-        }
-    }
-
-    private void line(String line) {
-        lines++;
-        String[] sides = line.split(" = ");
-        String[] parts = sides[0].split(" ");
-        if (parts[0].equals("word")) {
-            for (char letter : parts[1].toCharArray()) {
-                due(line, Caller.isException(Caller.answer(hall, "type", letter)), false);
-            }
-            return;
-        }
-        int[] args = new int[parts.length - 1];
-        for (int i = 0; i < args.length; i++) {
-            args[i] = number(parts[i + 1]);
-        }
-        String want = sides.length == 2 ? sides[1] : null;
-        boolean isToThrow = want != null && Caller.isException(want);
-        String before = isToThrow ? Caller.picture(hall, today) : "";
-        String got = Caller.answer(hall, parts[0], args);
-        if (parts[0].equals("pass") && !isToThrow) {
-            today += args[0];
-        }
-        if (want != null) {
-            due(line, got, want);
-        } else {
-            due(line + " answers " + got + ", an exception", !got.matches("-?[0-9]+|true|false|done"), false);
-        }
-        if (isToThrow) {
-            due(line + " leaves all as it was", Caller.picture(hall, today).equals(before), true);
-        }
-    }
-
-    private static int number(String text) {
-        return text.matches("[^0-9-]") ? text.charAt(0) : Integer.parseInt(text);
-    }
-
-    private void due(String what, Object got, Object want) {
-        if (!want.equals(got)) {
-            wrong++;
-            System.out.println(title + ": " + what + ": got " + got + ", due is " + want);
-        }
-    }
-
-    /** The man 0 under 1 (rank 6), 2 (rank 8), 3 (rank 9); officers 4 to 8, men 9 and 10; 11 is of the lowest rank. */
-    private static final String ARMY = """
-        person 1 = 0
-        person 6 = 1
-        person 8 = 2
-        person 9 = 3
-        person 4 = 4
-        person 5 = 5
-        person 5 = 6
-        person 7 = 7
-        person 7 = 8
-        person 2 = 9
-        person 3 = 10
-        person 0 = 11
-        status 0 1
-        command 0 1
-        command 1 2
-        command 2 3
-        """;
-
-    private static String charged(String word) {
-        return ARMY + "word " + word + "\ncharge 0 11 = 0\n";
-    }
-
-    /** Case 0 before a court, referred by 3. */
-    private static String referred(String word, int court) {
-        return charged(word) + "refer 0 3 " + court + " = 2\n";
-    }
-
-    /** Case 0 before a court referred by 3, whose members 4, 5 and so on vote 2 and the days told. */
-    private static String voted(String word, int court, int... days) {
-        StringBuilder script = new StringBuilder(referred(word, court));
-        for (int i = 0; i < days.length; i++) {
-            script.append("detail 0 ").append(4 + i).append(" = ").append(i + 1).append('\n');
-            script.append("vote 0 ").append(4 + i).append(" 2 ").append(days[i]).append('\n');
-        }
-        return script.toString();
-    }
-
-    /** Case 0, referred by 1, tried with 100 days and acted on. */
-    private static String acted() {
-        return charged("DESERTION") + """
-            refer 0 1 1 = 2
-            detail 0 4
-            detail 0 5
-            detail 0 6
-            vote 0 4 2 100
-            vote 0 5 2 100
-            vote 0 6 2 100
-            close 0 = 3
-            act 0 1 90
-            """;
-    }
-
     private static void persons() {
-        promise("1 a new object", """
+        Script.run("1 a new object", """
             isUnder 0 = IOOBE
             statusOn 0 0 = IOOBE
             left 0 = IOOBE
@@ -133,7 +11,7 @@ public final class PromisesTest {
             statusOn 0 1 = IAE
             pass 1 = 1
             """);
-        promise("2 person", """
+        Script.run("2 person", """
             person -1 = IAE
             person 10 = IAE
             person 0 = 0
@@ -147,7 +25,7 @@ public final class PromisesTest {
             isUnder 11 = false
             isUnder 12 = IOOBE
             """);
-        promise("3 status", """
+        Script.run("3 status", """
             status 0 1 = IOOBE
             person 0 = 0
             status -1 9 = IOOBE
@@ -166,7 +44,7 @@ public final class PromisesTest {
             status 1 3 = done
             statusOn 0 2 = 0
             """);
-        promise("4 statusOn", """
+        Script.run("4 statusOn", """
             person 0 = 0
             pass 10 = 10
             status 0 1
@@ -182,7 +60,7 @@ public final class PromisesTest {
             statusOn 1 -1 = IOOBE
             statusOn -1 0 = IOOBE
             """);
-        promise("5 isUnder", """
+        Script.run("5 isUnder", """
             person 0 = 0
             isUnder 0 = false
             status 0 1
@@ -206,7 +84,7 @@ public final class PromisesTest {
     }
 
     private static void commandAndDays() {
-        promise("6 command", """
+        Script.run("6 command", """
             person 3 = 0
             person 4 = 1
             person 4 = 2
@@ -225,7 +103,7 @@ public final class PromisesTest {
             command 3 0 = IOOBE
             command -1 -1 = IOOBE
             """);
-        promise("7 isInChain", """
+        Script.run("7 isInChain", """
             person 1 = 0
             person 2 = 1
             person 3 = 2
@@ -246,7 +124,7 @@ public final class PromisesTest {
             isInChain 4 0 = IOOBE
             isInChain -1 0 = IOOBE
             """);
-        promise("8 place", ARMY, """
+        Script.run("8 place", Army.ARMY, """
             status 0 4
             place 1 0 = done
             isUnder 0 = true
@@ -260,7 +138,7 @@ public final class PromisesTest {
             place 1 0 = done
             refer 0 3 0 = 2
             """);
-        promise("9 pass", """
+        Script.run("9 pass", """
             pass 0 = IAE
             pass -1 = IAE
             pass 401 = IAE
@@ -271,7 +149,7 @@ public final class PromisesTest {
     }
 
     private static void words() {
-        promise("10 type", """
+        Script.run("10 type", """
             type @ = IAE
             type [ = IAE
             type a = IAE
@@ -283,8 +161,8 @@ public final class PromisesTest {
             type B = 12
             type C = ISE
             type c = IAE
-            """, ARMY, "charge 0 11 = -1\ntype C = 1\n");
-        promise("11 charge", ARMY, """
+            """, Army.ARMY, "charge 0 11 = -1\ntype C = 1\n");
+        Script.run("11 charge", Army.ARMY, """
             charge 0 11 = -1
             word MURDER
             charge 0 0 = IAE
@@ -312,7 +190,7 @@ public final class PromisesTest {
             caseIs 3 1 = 1
             caseIs 4 1 = IOOBE
             """);
-        promise("11 charge, 20 cases", ARMY, "word THEFT\ncharge 0 11\n".repeat(19), """
+        Script.run("11 charge, 20 cases", Army.ARMY, "word THEFT\ncharge 0 11\n".repeat(19), """
             word NOTHING
             charge 0 11 = -1
             word ASSAULT
@@ -334,9 +212,9 @@ public final class PromisesTest {
     }
 
     private static void offence(String word, int whole, int lesser, boolean isOfAll) {
-        promise("11 and 12 " + word, charged(word), "caseIs 0 7 = " + whole, "caseIs 0 8 = " + lesser, "place 0 1",
+        Script.run("11 and 12 " + word, Army.charged(word), "caseIs 0 7 = " + whole, "caseIs 0 8 = " + lesser, "place 0 1",
                 "refer 0 3 2 = " + (isOfAll ? "ISE" : "2"), "place 1 0", "refer 0 3 2 = " + (isOfAll ? "2" : "ISE"));
-        promise("27 the lesser one of " + word, referred(word, 2), """
+        Script.run("27 the lesser one of " + word, Army.referred(word, 2), """
             detail 0 4
             detail 0 5
             detail 0 6
@@ -352,7 +230,7 @@ public final class PromisesTest {
     }
 
     private static void clocks() {
-        promise("12 caseIs", charged("DESERTION"), """
+        Script.run("12 caseIs", Army.charged("DESERTION"), """
             caseIs 0 0 = 0
             caseIs 0 1 = 0
             caseIs 0 2 = 0
@@ -367,7 +245,7 @@ public final class PromisesTest {
             caseIs 1 9 = IOOBE
             caseIs -1 0 = IOOBE
             """);
-        promise("12 caseIs, clock and credit by state", voted("DESERTION", 0, 20), """
+        Script.run("12 caseIs, clock and credit by state", Army.voted("DESERTION", 0, 20), """
             restrain 0 2
             pass 3 = 3
             caseIs 0 2 = 3
@@ -397,7 +275,7 @@ public final class PromisesTest {
             caseIs 0 2 = 4
             caseIs 0 3 = 7
             """);
-        promise("13 left", charged("ABSENCE"), """
+        Script.run("13 left", Army.charged("ABSENCE"), """
             left 0 = 0
             left 1 = IOOBE
             left -1 = IOOBE
@@ -411,7 +289,7 @@ public final class PromisesTest {
             setAside 0 2 4
             left 0 = 0
             """);
-        promise("13 left by state", voted("DESERTION", 0, 20), """
+        Script.run("13 left by state", Army.voted("DESERTION", 0, 20), """
             restrain 0 2
             pass 5 = 5
             left 0 = 0
@@ -422,7 +300,7 @@ public final class PromisesTest {
             rehear 0 3 = 18
             left 0 = 0
             """);
-        promise("14 stand", charged("ABSENCE"), """
+        Script.run("14 stand", Army.charged("ABSENCE"), """
             stand 0 0 = false
             pass 2 = 2
             stand 0 1 = false
@@ -439,7 +317,7 @@ public final class PromisesTest {
             stand 1 1 = IOOBE
             stand -1 1 = IOOBE
             """);
-        promise("15 restrain", charged("ABSENCE"), """
+        Script.run("15 restrain", Army.charged("ABSENCE"), """
             restrain 0 1 = 0
             pass 2 = 2
             caseIs 0 3 = 0
@@ -459,7 +337,7 @@ public final class PromisesTest {
             restrain 1 3 = IOOBE
             restrain -1 0 = IOOBE
             """);
-        promise("16 waive", charged("THEFT"), """
+        Script.run("16 waive", Army.charged("THEFT"), """
             word THEFT
             charge 0 11 = 1
             place 0 1
@@ -477,7 +355,7 @@ public final class PromisesTest {
     }
 
     private static void minorPunishment() {
-        promise("17 refuse", charged("ABSENCE"), """
+        Script.run("17 refuse", Army.charged("ABSENCE"), """
             refuse 1 = IOOBE
             refuse -1 = IOOBE
             place 1 0
@@ -492,8 +370,8 @@ public final class PromisesTest {
             place 1 0
             punish 0 1 1 = ISE
             """);
-        promise("17 refuse, of a PUNISHED case", charged("ABSENCE"), "punish 0 1 1\nrefuse 0 = ISE\n");
-        promise("18 punish", charged("ABSENCE"), """
+        Script.run("17 refuse, of a PUNISHED case", Army.charged("ABSENCE"), "punish 0 1 1\nrefuse 0 = ISE\n");
+        Script.run("18 punish", Army.charged("ABSENCE"), """
             punish 0 1 0 = IAE
             punish 0 1 100 = IAE
             punish 0 1 99 = ISE
@@ -512,23 +390,23 @@ public final class PromisesTest {
             punish 0 1 18 = ISE
             punish 0 1 0 = IAE
             """);
-        promise("18 punish, by who accused", ARMY, """
+        Script.run("18 punish, by who accused", Army.ARMY, """
             word ABSENCE
             charge 0 1 = 0
             punish 0 1 1 = ISE
             punish 0 3 28 = ISE
             punish 0 3 27 = done
             """);
-        promise("18 punish, of one no more under the law", charged("ABSENCE"), "status 0 0\npunish 0 2 24 = done\n");
-        promise("18 punish, below the ceiling", acted(), """
+        Script.run("18 punish, of one no more under the law", Army.charged("ABSENCE"), "status 0 0\npunish 0 2 24 = done\n");
+        Script.run("18 punish, below the ceiling", Army.acted(), """
             appeal 0 2 7
             rehear 0 2 = 7
             punish 0 1 8 = ISE
             punish 0 1 7 = done
             caseIs 0 4 = 7
             """);
-        promise("18 punish, of a ceiling of 0", acted(), "appeal 0 2 0\nrehear 0 2 = 0\npunish 0 1 1 = ISE\n");
-        promise("19 setAside", charged("ABSENCE"), """
+        Script.run("18 punish, of a ceiling of 0", Army.acted(), "appeal 0 2 0\nrehear 0 2 = 0\npunish 0 1 1 = ISE\n");
+        Script.run("19 setAside", Army.charged("ABSENCE"), """
             setAside 0 2 0 = ISE
             setAside 0 2 1 = IAE
             punish 0 1 10
@@ -552,13 +430,13 @@ public final class PromisesTest {
             setAside 0 3 0 = ISE
             setAside 0 3 5 = IAE
             """);
-        promise("19 setAside, by who accused", ARMY, """
+        Script.run("19 setAside, by who accused", Army.ARMY, """
             word ABSENCE
             charge 0 3 = 0
             punish 0 2 10
             setAside 0 3 5 = done
             """);
-        promise("19 setAside, of another state", voted("ABSENCE", 0, 20), """
+        Script.run("19 setAside, of another state", Army.voted("ABSENCE", 0, 20), """
             close 0 = 3
             setAside 0 3 20 = IAE
             setAside 0 3 19 = ISE
@@ -566,7 +444,7 @@ public final class PromisesTest {
     }
 
     private static void referral() {
-        promise("20 refer", charged("ABSENCE"), """
+        Script.run("20 refer", Army.charged("ABSENCE"), """
             refer 0 1 3 = IAE
             refer 0 1 -1 = IAE
             refer 0 12 3 = IOOBE
@@ -582,7 +460,7 @@ public final class PromisesTest {
             refer 0 1 1 = ISE
             refer 0 1 3 = IAE
             """);
-        promise("20 refer, the ranks", """
+        Script.run("20 refer, the ranks", """
             person 1 = 0
             person 3 = 1
             person 4 = 2
@@ -611,14 +489,14 @@ public final class PromisesTest {
             withdraw 0
             refer 0 6 2 = 2
             """);
-        promise("20 refer, by who accused", ARMY, """
+        Script.run("20 refer, by who accused", Army.ARMY, """
             word ABSENCE
             charge 0 1 = 0
             refer 0 1 0 = ISE
             refer 0 2 0 = 2
             """);
-        promise("20 refer, a clock of 120", charged("ABSENCE"), "pass 120 = 120\nrefer 0 1 0 = 2\n");
-        promise("20 refer, a clock of 121", charged("ABSENCE"), """
+        Script.run("20 refer, a clock of 120", Army.charged("ABSENCE"), "pass 120 = 120\nrefer 0 1 0 = 2\n");
+        Script.run("20 refer, a clock of 121", Army.charged("ABSENCE"), """
             pass 121 = 121
             refer 0 1 2 = ISE
             refer 0 1 0 = 5
@@ -630,13 +508,13 @@ public final class PromisesTest {
             pass 5 = 126
             caseIs 0 2 = 121
             """);
-        promise("20 refer, a clock that ran on in the court", referred("ABSENCE", 0), """
+        Script.run("20 refer, a clock that ran on in the court", Army.referred("ABSENCE", 0), """
             pass 121 = 121
             caseIs 0 0 = 2
             withdraw 0 = done
             refer 0 3 0 = 5
             """);
-        promise("21 withdraw", voted("DISRESPECT", 1, 9, 9, 9), """
+        Script.run("21 withdraw", Army.voted("DISRESPECT", 1, 9, 9, 9), """
             withdraw 1 = IOOBE
             withdraw -1 = IOOBE
             pass 7 = 7
@@ -653,7 +531,7 @@ public final class PromisesTest {
             close 0 = 3
             withdraw 0 = ISE
             """);
-        promise("22 request", charged("ABSENCE"), """
+        Script.run("22 request", Army.charged("ABSENCE"), """
             request 1 = IOOBE
             request -1 = IOOBE
             request 0 = done
@@ -668,7 +546,7 @@ public final class PromisesTest {
             refer 0 1 0 = 5
             request 0 = ISE
             """);
-        promise("22 request, an officer", """
+        Script.run("22 request, an officer", """
             person 4 = 0
             person 9 = 1
             person 3 = 2
@@ -681,11 +559,11 @@ public final class PromisesTest {
             charge 2 1 = 1
             request 1 = done
             """);
-        promise("22 request, once TRIED", voted("ABSENCE", 0, 5), "close 0 = 3\nrequest 0 = done\n");
+        Script.run("22 request, once TRIED", Army.voted("ABSENCE", 0, 5), "close 0 = 3\nrequest 0 = done\n");
     }
 
     private static void members() {
-        promise("23 detail", charged("ABSENCE"), """
+        Script.run("23 detail", Army.charged("ABSENCE"), """
             detail 0 4 = ISE
             refer 0 2 1 = 2
             detail 0 0 = ISE
@@ -708,7 +586,7 @@ public final class PromisesTest {
             detail 0 1 = ISE
             detail 0 2 = 1
             """);
-        promise("23 detail, the ranks and who accused", """
+        Script.run("23 detail, the ranks and who accused", """
             person 5 = 0
             person 5 = 1
             person 6 = 2
@@ -725,7 +603,7 @@ public final class PromisesTest {
             detail 0 2 = ISE
             detail 0 4 = 1
             """);
-        promise("23 detail, 9 at most", """
+        Script.run("23 detail, 9 at most", """
             person 1 = 0
             person 9 = 1
             person 0 = 2
@@ -740,7 +618,7 @@ public final class PromisesTest {
             detail 0 11 = 9
             detail 0 11 = ISE
             """);
-        promise("24 challenge", voted("ABSENCE", 0, 30, 30), """
+        Script.run("24 challenge", Army.voted("ABSENCE", 0, 30, 30), """
             challenge 0 6 = ISE
             challenge 0 12 = IOOBE
             challenge 0 -1 = IOOBE
@@ -757,21 +635,21 @@ public final class PromisesTest {
             detail 0 5 = 1
             challenge 0 5 = 0
             """);
-        promise("24 challenge, the vote is gone", voted("ABSENCE", 1, 60, 60, 60, 60), """
+        Script.run("24 challenge, the vote is gone", Army.voted("ABSENCE", 1, 60, 60, 60, 60), """
             vote 0 4 0 0
             vote 0 5 0 0
             challenge 0 4 = 3
             close 0 = 3
             caseIs 0 5 = 2
             """);
-        promise("24 challenge, only in this case", voted("ABSENCE", 0, 30), """
+        Script.run("24 challenge, only in this case", Army.voted("ABSENCE", 0, 30), """
             challenge 0 4 = 0
             word ABSENCE
             charge 0 11 = 1
             refer 1 3 0 = 2
             detail 1 4 = 1
             """);
-        promise("25 talk", referred("ABSENCE", 0), """
+        Script.run("25 talk", Army.referred("ABSENCE", 0), """
             talk 1 1 1 = IOOBE
             talk -1 1 1 = IOOBE
             talk 0 12 4 = IOOBE
@@ -791,7 +669,7 @@ public final class PromisesTest {
     }
 
     private static void taints() {
-        promise("25 talk, before he is a member", charged("ABSENCE"), """
+        Script.run("25 talk, before he is a member", Army.charged("ABSENCE"), """
             talk 0 5 4 = true
             refer 0 3 0 = 2
             detail 0 4 = 1
@@ -802,7 +680,7 @@ public final class PromisesTest {
             vote 0 5 0 0
             close 0 = 5
             """);
-        promise("25 talk, after he voted", voted("ABSENCE", 1, 50, 50, 50), """
+        Script.run("25 talk, after he voted", Army.voted("ABSENCE", 1, 50, 50, 50), """
             talk 0 5 4 = true
             close 0 = -1
             detail 0 7 = 4
@@ -810,7 +688,7 @@ public final class PromisesTest {
             close 0 = 3
             caseIs 0 4 = 50
             """);
-        promise("25 talk, for good", voted("ABSENCE", 0, 20), """
+        Script.run("25 talk, for good", Army.voted("ABSENCE", 0, 20), """
             talk 0 5 4 = true
             withdraw 0
             refer 0 3 0 = 2
@@ -818,7 +696,7 @@ public final class PromisesTest {
             vote 0 4 2 20
             close 0 = -1
             """);
-        promise("25 talk, through a rehearing", acted(), """
+        Script.run("25 talk, through a rehearing", Army.acted(), """
             talk 0 5 4 = true
             rehear 0 1
             talk 0 4 4 = true
@@ -827,7 +705,7 @@ public final class PromisesTest {
             vote 0 4 2 20
             close 0 = -1
             """);
-        promise("25 and 28 talk, after the court closed", voted("DISRESPECT", 1, 150, 150, 150, 20), """
+        Script.run("25 and 28 talk, after the court closed", Army.voted("DISRESPECT", 1, 150, 150, 150, 20), """
             close 0 = 3
             caseIs 0 4 = 150
             talk 0 8 4 = true
@@ -836,7 +714,7 @@ public final class PromisesTest {
             caseIs 0 5 = 2
             sentenceAnew 0 = 150
             """);
-        promise("26 vote", referred("ABSENCE", 0), """
+        Script.run("26 vote", Army.referred("ABSENCE", 0), """
             detail 0 4 = 1
             vote 0 4 3 0 = IAE
             vote 0 4 -1 0 = IAE
@@ -861,7 +739,7 @@ public final class PromisesTest {
     }
 
     private static void closing() {
-        promise("27 close", charged("ABSENCE"), """
+        Script.run("27 close", Army.charged("ABSENCE"), """
             close 0 = ISE
             close 1 = IOOBE
             close -1 = IOOBE
@@ -883,21 +761,21 @@ public final class PromisesTest {
             caseIs 0 0 = 3
             close 0 = ISE
             """);
-        promise("27 close, GENERAL needs 5", voted("MURDER", 2, 999, 999, 999, 999), """
+        Script.run("27 close, GENERAL needs 5", Army.voted("MURDER", 2, 999, 999, 999, 999), """
             close 0 = -1
             detail 0 8 = 5
             vote 0 8 2 999
             close 0 = 3
             caseIs 0 4 = 999
             """);
-        promise("27 close, the caps", voted("MURDER", 0, 999), "close 0 = 3\ncaseIs 0 4 = 30\nsentenceAnew 0 = 30\n");
-        promise("27 close, the caps", voted("MURDER", 1, 999, 999, 999), "close 0 = 3\ncaseIs 0 4 = 180\n");
-        promise("27 close, the greatest of the finding", voted("DISOBEYING", 2, 999, 999, 999, 999, 999), """
+        Script.run("27 close, the cap of SUMMARY", Army.voted("MURDER", 0, 999), "close 0 = 3\ncaseIs 0 4 = 30\nsentenceAnew 0 = 30\n");
+        Script.run("27 close, the cap of SPECIAL", Army.voted("MURDER", 1, 999, 999, 999), "close 0 = 3\ncaseIs 0 4 = 180\n");
+        Script.run("27 close, the greatest of the finding", Army.voted("DISOBEYING", 2, 999, 999, 999, 999, 999), """
             close 0 = 3
             caseIs 0 4 = 365
             sentenceAnew 0 = 365
             """);
-        promise("27 close, the lesser one", voted("MURDER", 2, 999, 999, 999, 999, 999), """
+        Script.run("27 close, the lesser one", Army.voted("MURDER", 2, 999, 999, 999, 999, 999), """
             vote 0 4 1 999
             vote 0 5 0 999
             close 0 = 3
@@ -905,7 +783,7 @@ public final class PromisesTest {
             caseIs 0 4 = 200
             sentenceAnew 0 = 200
             """);
-        promise("27 close, acquitted", voted("MURDER", 1, 50, 60, 70), """
+        Script.run("27 close, acquitted", Army.voted("MURDER", 1, 50, 60, 70), """
             vote 0 4 0 50
             vote 0 5 0 60
             close 0 = 5
@@ -915,13 +793,13 @@ public final class PromisesTest {
             sentenceAnew 0 = -1
             close 0 = ISE
             """);
-        promise("27 close, two thirds of 4 are 3", voted("THEFT", 1, 50, 50, 50, 50), "vote 0 4 0 0\nclose 0 = 3\n");
-        promise("27 close, 2 of 4 are too few", voted("THEFT", 1, 50, 50, 50, 50), """
+        Script.run("27 close, two thirds of 4 are 3", Army.voted("THEFT", 1, 50, 50, 50, 50), "vote 0 4 0 0\nclose 0 = 3\n");
+        Script.run("27 close, 2 of 4 are too few", Army.voted("THEFT", 1, 50, 50, 50, 50), """
             vote 0 4 0 0
             vote 0 5 1 0
             close 0 = 5
             """);
-        promise("27 close, men", voted("THEFT", 1, 50, 50, 50), """
+        Script.run("27 close, men", Army.voted("THEFT", 1, 50, 50, 50), """
             request 0
             close 0 = -1
             detail 0 9 = 4
@@ -931,7 +809,7 @@ public final class PromisesTest {
             vote 0 10 2 50
             close 0 = 3
             """);
-        promise("27 close, a third of 3 is a man, tainted he is none", voted("THEFT", 0, 10, 10), """
+        Script.run("27 close, a third of 3 is a man, tainted he is none", Army.voted("THEFT", 0, 10, 10), """
             request 0
             detail 0 9 = 3
             detail 0 10 = 4
@@ -943,13 +821,13 @@ public final class PromisesTest {
             challenge 0 9 = 3
             close 0 = -1
             """);
-        promise("27 close, a man of 3", voted("THEFT", 0, 10, 10), """
+        Script.run("27 close, a man of 3", Army.voted("THEFT", 0, 10, 10), """
             request 0
             detail 0 9 = 3
             vote 0 9 2 10
             close 0 = 3
             """);
-        promise("27 close, a tainted one need not vote", voted("THEFT", 0, 10), """
+        Script.run("27 close, a tainted one need not vote", Army.voted("THEFT", 0, 10), """
             detail 0 5 = 2
             close 0 = -1
             talk 0 3 5 = true
@@ -958,7 +836,7 @@ public final class PromisesTest {
     }
 
     private static void sentence(String title, int due, int... days) {
-        promise("27 and 28 the sentence, " + title, voted("MURDER", days.length < 5 ? 1 : 2, days), """
+        Script.run("27 and 28 the sentence, " + title, Army.voted("MURDER", days.length < 5 ? 1 : 2, days), """
             sentenceAnew 0 = -1
             close 0 = 3
             """, "caseIs 0 4 = " + due, "sentenceAnew 0 = " + due);
@@ -974,18 +852,18 @@ public final class PromisesTest {
         sentence("two thirds of 5 are 4", 20, 90, 90, 90, 20, 0);
         sentence("nothing", 0, 500, 0, 0);
         sentence("a day", 1, 1, 1, 0);
-        promise("27 the sentence, whatever finding they voted", voted("MURDER", 1, 120, 120, 120, 120), """
+        Script.run("27 the sentence, whatever finding they voted", Army.voted("MURDER", 1, 120, 120, 120, 120), """
             vote 0 4 0 30
             close 0 = 3
             caseIs 0 5 = 2
             caseIs 0 4 = 120
             """);
-        promise("27 the sentence, of who voted 0 too", voted("MURDER", 1, 40, 20, 20), """
+        Script.run("27 the sentence, of who voted 0 too", Army.voted("MURDER", 1, 40, 20, 20), """
             vote 0 5 0 40
             close 0 = 3
             caseIs 0 4 = 40
             """);
-        promise("27 the sentence, below the ceiling", acted(), """
+        Script.run("27 the sentence, below the ceiling", Army.acted(), """
             appeal 0 3 35
             rehear 0 1 = 35
             refer 0 2 1 = 2
@@ -1001,7 +879,7 @@ public final class PromisesTest {
             caseIs 0 6 = 35
             sentenceAnew 0 = 35
             """);
-        promise("28 sentenceAnew", acted(), """
+        Script.run("28 sentenceAnew", Army.acted(), """
             sentenceAnew 1 = IOOBE
             sentenceAnew -1 = IOOBE
             caseIs 0 4 = 90
@@ -1016,7 +894,7 @@ public final class PromisesTest {
     }
 
     private static void action() {
-        promise("29 act", voted("THEFT", 0, 25), """
+        Script.run("29 act", Army.voted("THEFT", 0, 25), """
             act 0 3 0 = ISE
             act 0 3 1 = IAE
             close 0 = 3
@@ -1034,8 +912,8 @@ public final class PromisesTest {
             act 0 3 25 = ISE
             act 0 3 26 = IAE
             """);
-        promise("29 act, of 0 days", voted("THEFT", 0, 25), "close 0 = 3\nact 0 3 0 = done\ncaseIs 0 0 = 4\ncaseIs 0 4 = 0\n");
-        promise("29 act, by who referred it last", charged("THEFT"), """
+        Script.run("29 act, of 0 days", Army.voted("THEFT", 0, 25), "close 0 = 3\nact 0 3 0 = done\ncaseIs 0 0 = 4\ncaseIs 0 4 = 0\n");
+        Script.run("29 act, by who referred it last", Army.charged("THEFT"), """
             refer 0 1 0 = 2
             withdraw 0
             refer 0 2 0 = 2
@@ -1046,7 +924,7 @@ public final class PromisesTest {
             act 0 3 12 = ISE
             act 0 2 12 = done
             """);
-        promise("30 appeal", charged("THEFT"), """
+        Script.run("30 appeal", Army.charged("THEFT"), """
             appeal 0 2 0 = ISE
             refer 0 1 0 = 2
             detail 0 4
@@ -1073,12 +951,12 @@ public final class PromisesTest {
             caseIs 0 4 = 0
             caseIs 0 0 = 4
             """);
-        promise("30 appeal, by the chain of today", acted(), """
+        Script.run("30 appeal, by the chain of today", Army.acted(), """
             command 1 3
             appeal 0 2 9 = ISE
             appeal 0 3 9 = done
             """);
-        promise("31 rehear", charged("THEFT"), """
+        Script.run("31 rehear", Army.charged("THEFT"), """
             rehear 0 1 = ISE
             rehear 1 1 = IOOBE
             rehear -1 1 = IOOBE
@@ -1102,8 +980,8 @@ public final class PromisesTest {
     }
 
     private static void rehearing() {
-        promise("31 rehear, by one above", acted(), "rehear 0 3 = 90\ncaseIs 0 6 = 90\n");
-        promise("31 rehear, what stays", charged("THEFT"), """
+        Script.run("31 rehear, by one above", Army.acted(), "rehear 0 3 = 90\ncaseIs 0 6 = 90\n");
+        Script.run("31 rehear, what stays", Army.charged("THEFT"), """
             refuse 0
             waive 0
             request 0
@@ -1138,7 +1016,7 @@ public final class PromisesTest {
             stand 0 1 = true
             restrain 0 2 = 2
             """);
-        promise("31 rehear, a clock of 0", charged("THEFT"), """
+        Script.run("31 rehear, a clock of 0", Army.charged("THEFT"), """
             pass 119 = 119
             refer 0 3 0 = 2
             detail 0 4
@@ -1151,7 +1029,7 @@ public final class PromisesTest {
             pass 120 = 339
             refer 0 3 0 = 2
             """);
-        promise("31 rehear, again below the ceiling", acted(), """
+        Script.run("31 rehear, again below the ceiling", Army.acted(), """
             rehear 0 1 = 90
             refer 0 1 0 = 2
             detail 0 4
@@ -1175,7 +1053,6 @@ public final class PromisesTest {
         closing();
         sentences();
         action();
-        System.out.println(lines + " lines, " + wrong + " wrong");
-        System.exit(wrong == 0 ? 0 : 1);
+        Script.end();
     }
 }
