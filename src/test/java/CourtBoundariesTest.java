@@ -212,6 +212,52 @@ public final class CourtBoundariesTest {
             """);
     }
 
+    private static void withdrawn() {
+        Script.run("CHARGED again, what was told by calls holds", Army.charged("THEFT"), """
+            refuse 0
+            waive 0
+            request 0
+            restrain 0 2
+            pass 3 = 3
+            refer 0 1 0 = 2
+            detail 0 4 = 1
+            challenge 0 4 = 0
+            talk 0 6 5 = false
+            talk 0 7 5 = true
+            stand 0 1 = false
+            withdraw 0 = done
+            caseIs 0 2 = 3
+            caseIs 0 3 = 3
+            punish 0 1 1 = ISE
+            place 0 1
+            refer 0 1 0 = 2
+            detail 0 4 = ISE
+            detail 0 9 = 1
+            detail 0 5 = 2
+            vote 0 5 2 20
+            close 0 = -1
+            vote 0 9 2 20
+            close 0 = 3
+            stand 0 0 = true
+            restrain 0 0 = 2
+            """);
+        Script.run("CHARGED again, below the ceiling of a rehearing", Army.acted(), """
+            rehear 0 1 = 90
+            refer 0 1 0 = 2
+            withdraw 0
+            caseIs 0 6 = 90
+            refer 0 1 1 = 2
+            detail 0 4
+            detail 0 5
+            detail 0 6
+            vote 0 4 2 91
+            vote 0 5 2 91
+            vote 0 6 2 91
+            close 0 = 3
+            caseIs 0 4 = 90
+            """);
+    }
+
     private static void leastMembers() {
         int[] least = {1, 3, 5};
         for (int court = 0; court < 3; court++) {
@@ -548,6 +594,7 @@ public final class CourtBoundariesTest {
         powers();
         clocks();
         members();
+        withdrawn();
         leastMembers();
         men();
         taints();
