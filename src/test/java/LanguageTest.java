@@ -25,7 +25,10 @@ import com.sun.source.util.TreePathScanner;
 import com.sun.source.util.Trees;
 import java.nio.charset.StandardCharsets;
 import java.nio.file.Path;
+import java.util.HashSet;
+import java.util.LinkedHashMap;
 import java.util.List;
+import java.util.Map;
 import java.util.Set;
 import javax.lang.model.element.Element;
 import javax.lang.model.element.ElementKind;
@@ -38,6 +41,10 @@ import javax.tools.ToolProvider;
 public final class LanguageTest extends TreePathScanner<Void, Void> {
     private static final Path FILE = Path.of("src/main/java/MartialHall.java");
     private static final int MOST_LINES = 60, MOST_PARAMETERS = 7, MOST_CLASSES = 12, MOST_FIELDS = 20;
+    private static final int MOST_DEEP = 8;
+    private static final Set<String> ENUM_FIELDS = Set.of("int", "long", "boolean", "java.lang.String");
+    private static final Set<String> STATIC_FIELDS = Set.of("int", "long", "boolean", "char", "java.lang.String", "int[]",
+        "long[]", "char[]", "byte[]");
     private static final Set<String> EXCEPTIONS = Set.of("IllegalStateException", "IllegalArgumentException",
         "IndexOutOfBoundsException", "ArithmeticException", "UnsupportedOperationException", "NoSuchElementException",
         "RuntimeException");
@@ -57,6 +64,10 @@ public final class LanguageTest extends TreePathScanner<Void, Void> {
 
     private final Trees trees;
     private final CompilationUnitTree unit;
+    /** What each method calls of the program's own, and where it stands. */
+    private final Map<Element, Set<Element>> calls = new LinkedHashMap<>();
+    private final Map<Element, Tree> places = new LinkedHashMap<>();
+    private Element method;
     private int classes = 0;
     private int wrong = 0;
 
@@ -105,6 +116,7 @@ public final class LanguageTest extends TreePathScanner<Void, Void> {
                 Set<Modifier> how = field.getModifiers().getFlags();
                 rule(5, field, !how.contains(Modifier.STATIC) || how.contains(Modifier.FINAL), "a static field that is not final");
                 fields += how.contains(Modifier.STATIC) ? 0 : 1;
+                field(tree, field);
             }
         }
         rule(11, tree, fields <= MOST_FIELDS, "a class of " + fields + " fields");
@@ -113,14 +125,58 @@ public final class LanguageTest extends TreePathScanner<Void, Void> {
         return super.visitClass(tree, none);
     }
 
+    private void field(ClassTree owner, VariableTree field) {
+        boolean isStatic = field.getModifiers().getFlags().contains(Modifier.STATIC);
+        boolean isOfEnum = owner.getKind() == Tree.Kind.ENUM;
+        String type = typeOf(field);
+        // An enum's constants are its static fields, and its values() are kept in one.
+        boolean isEnums = isOwn(type) && (isOfEnum || type.endsWith("[]"));
+        rule(5, field, !isStatic || STATIC_FIELDS.contains(type) || isEnums, "a static field of " + type);
+        rule(2, field, isStatic || !isOfEnum || ENUM_FIELDS.contains(type), "an enum's field of " + type);
+    }
+
+    /** How many calls stand open at once, at the most, below and with that of a method. */
+    private int depth(Element called, Set<Element> open) {
+        boolean isNew = open.add(called);
+        rule(8, places.get(called), isNew, "a method that calls itself, whose depth has to be looked at");
+        int deepest = 0;
+        if (isNew) {
+            for (Element next : calls.get(called)) {
+                deepest = Math.max(deepest, calls.containsKey(next) ? depth(next, open) : 0);
+            }
+            open.remove(called);
+        }
+        return deepest + 1;
+    }
+
+    private void lookAtCalls() {
+        Set<String> face = new HashSet<>();
+        for (Element one : calls.keySet()) {
+            if (one.getModifiers().contains(Modifier.PUBLIC) && one.getKind() == ElementKind.METHOD) {
+                face.add(one.getSimpleName().toString());
+            }
+        }
+        for (Element one : calls.keySet()) {
+            boolean isPublic = one.getModifiers().contains(Modifier.PUBLIC);
+            rule(1, places.get(one), isPublic || !face.contains(one.getSimpleName().toString()), "a name of the face");
+            int deep = depth(one, new HashSet<>());
+            rule(11, places.get(one), deep <= MOST_DEEP, "calls that go " + deep + " deep");
+        }
+    }
+
     @Override
     public Void visitMethod(MethodTree tree, Void none) {
+        method = trees.getElement(getCurrentPath());
+        calls.put(method, new HashSet<>());
+        places.put(method, tree);
         SourcePositions positions = trees.getSourcePositions();
         long first = unit.getLineMap().getLineNumber(positions.getStartPosition(unit, tree));
         long last = unit.getLineMap().getLineNumber(Math.max(positions.getEndPosition(unit, tree), positions.getStartPosition(unit, tree)));
         rule(11, tree, last - first < MOST_LINES, "a method of " + (last - first + 1) + " lines");
         rule(11, tree, tree.getParameters().size() <= MOST_PARAMETERS, "too many parameters");
-        return super.visitMethod(tree, none);
+        super.visitMethod(tree, none);
+        method = null;
+        return null;
     }
 
     @Override
@@ -141,12 +197,20 @@ public final class LanguageTest extends TreePathScanner<Void, Void> {
         String name = called.getEnclosingElement().getSimpleName().toString().replace("Abstract", "") + "." + called.getSimpleName();
         boolean isOfEnum = called.getSimpleName().contentEquals("values") || called.getSimpleName().contentEquals("ordinal");
         boolean isSuper = called.getKind() == ElementKind.CONSTRUCTOR;
+        noteCall(called);
         rule(4, tree, isOwn(owner) || CALLS.contains(name) || isOfEnum || isSuper, "a call of " + name);
         return super.visitMethodInvocation(tree, none);
     }
 
+    private void noteCall(Element one) {
+        if (method != null) {
+            calls.get(method).add(one);
+        }
+    }
+
     @Override
     public Void visitNewClass(NewClassTree tree, Void none) {
+        noteCall(trees.getElement(getCurrentPath()));
         String type = typeOf(tree.getIdentifier()).replaceAll("<.*>", "");
         boolean isException = EXCEPTIONS.contains(type.substring(type.lastIndexOf('.') + 1));
         rule(4, tree, isOwn(type) || LIBRARY.contains(type) || isException, "a new " + type);
@@ -251,6 +315,7 @@ public final class LanguageTest extends TreePathScanner<Void, Void> {
             LanguageTest test = new LanguageTest(Trees.instance(task), unit);
             test.rule(1, unit, unit.getPackageName() == null && unit.getTypeDecls().size() == 1, "a package or more classes");
             test.scan(unit, null);
+            test.lookAtCalls();
             System.out.println(test.classes + " classes, " + test.wrong + " wrong");
             System.exit(test.wrong == 0 ? 0 : 1);
         }
